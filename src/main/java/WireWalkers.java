@@ -204,22 +204,22 @@ public final class WireWalkers {
         if (!isWalker(walker) || !within(what, 0, 2)) {
             return BAD;
         }
-        Show seen = shown();
+        Show played = shown();
         if (what == 0) {
-            return seen.ended[walker];
+            return played.ended[walker];
         }
-        return what == 1 ? seen.blocked[walker] : seen.farthest[walker];
+        return what == 1 ? played.blocked[walker] : played.farthest[walker];
     }
 
     public int sum(int what) {
         if (!within(what, 0, 2)) {
             return BAD;
         }
-        Show seen = shown();
+        Show played = shown();
         if (what == 0) {
-            return seen.overs;
+            return played.overs;
         }
-        return what == 1 ? seen.falls : seen.steps;
+        return what == 1 ? played.falls : played.steps;
     }
 
     public int who(int what) {
@@ -243,12 +243,12 @@ public final class WireWalkers {
     }
 
     private int firstOver() {
-        Show seen = shown();
+        Show played = shown();
         int first = NONE;
         int earliest = BEATS;
         for (int w = 0; w < told.walkers; w++) {
-            if (seen.state[w] == OVER && seen.ended[w] < earliest) {
-                earliest = seen.ended[w];
+            if (played.state[w] == OVER && played.ended[w] < earliest) {
+                earliest = played.ended[w];
                 first = w;
             }
         }
@@ -256,12 +256,12 @@ public final class WireWalkers {
     }
 
     private int farthestLeaning() {
-        Show seen = shown();
+        Show played = shown();
         int worst = NONE;
         int most = 0;
         for (int w = 0; w < told.walkers; w++) {
-            if (seen.farthest[w] > most) {
-                most = seen.farthest[w];
+            if (played.farthest[w] > most) {
+                most = played.farthest[w];
                 worst = w;
             }
         }
