@@ -16,6 +16,7 @@ public final class WireWalkers {
     private static final int FREE = 1000;
     private static final int NULL = 1, INDEX = 2, CAST = 3, STORE = 4, SIZE = 5;
     private static final int WORST_INT = Integer.MIN_VALUE;
+    private static final int[] DIGEST_BEATS = {0, 6, 13, 23};
 
     private final Text walkerText = new Text(WALKER_BYTES);
     private final Text routineText = new Text(ROUTINE_BYTES);
@@ -226,7 +227,8 @@ public final class WireWalkers {
         if (!within(what, 0, 1)) {
             return BAD;
         }
-        return what == 0 ? firstOver() : farthestLeaning();
+        Show played = shown();
+        return what == 0 ? firstOver(played) : farthestLeaning(played);
     }
 
     public int bare() {
@@ -242,8 +244,7 @@ public final class WireWalkers {
         return bare;
     }
 
-    private int firstOver() {
-        Show played = shown();
+    private int firstOver(Show played) {
         int first = NONE;
         int earliest = BEATS;
         for (int w = 0; w < told.walkers; w++) {
@@ -255,8 +256,7 @@ public final class WireWalkers {
         return first;
     }
 
-    private int farthestLeaning() {
-        Show played = shown();
+    private int farthestLeaning(Show played) {
         int worst = NONE;
         int most = 0;
         for (int w = 0; w < told.walkers; w++) {
@@ -637,7 +637,15 @@ public final class WireWalkers {
         for (int w = 0; w < told.walkers; w++) {
             h = mixedPlans(mixedWalk(h, w), w);
         }
-        return mixedRest(h);
+        for (int what = 0; what <= 2; what++) {
+            h = mixed(h, sum(what));
+        }
+        h = mixed(mixed(mixed(h, who(0)), who(1)), bare());
+        h = mixedBest(h, act(2, 0));
+        h = mixedBest(h, act(6, 0));
+        h = mixed(mixed(h, spare(NONE)), spare(0));
+        h = mixed(h, never());
+        return mixed(mixed(h, shows(7, 18, 0)), shows(7, 18, 1));
     }
 
     private long mixedWalk(long before, int w) {
@@ -645,18 +653,13 @@ public final class WireWalkers {
         for (int what = 0; what <= 2; what++) {
             h = mixed(h, walker(w, what));
         }
-        h = mixedBehind(h, 0, w);
-        h = mixedBehind(h, 6, w);
-        h = mixedBehind(h, 13, w);
-        h = mixedBehind(h, 23, w);
+        for (int beat : DIGEST_BEATS) {
+            h = mixed(mixed(mixed(h, at(beat, w, 0)), at(beat, w, 1)), lean(beat, w));
+        }
         for (int what = 0; what <= 2; what++) {
             h = mixed(h, ends(w, what));
         }
         return h;
-    }
-
-    private long mixedBehind(long h, int beat, int w) {
-        return mixed(mixed(mixed(h, at(beat, w, 0)), at(beat, w, 1)), lean(beat, w));
     }
 
     private long mixedPlans(long before, int w) {
@@ -670,19 +673,6 @@ public final class WireWalkers {
     /** Which and how many of one plan: the plan just made has left how many behind. */
     private long mixedBest(long h, int which) {
         return mixed(mixed(h, which), bestOvers);
-    }
-
-    private long mixedRest(long before) {
-        long h = before;
-        for (int what = 0; what <= 2; what++) {
-            h = mixed(h, sum(what));
-        }
-        h = mixed(mixed(mixed(h, who(0)), who(1)), bare());
-        h = mixedBest(h, act(2, 0));
-        h = mixedBest(h, act(6, 0));
-        h = mixed(mixed(h, spare(NONE)), spare(0));
-        h = mixed(h, never());
-        return mixed(mixed(h, shows(7, 18, 0)), shows(7, 18, 1));
     }
 
     private static long mixed(long h, long v) {
@@ -883,14 +873,14 @@ public final class WireWalkers {
             Arrays.fill(cheers, 0);
             Arrays.fill(drops, 0);
             for (int e = 0; e < told.events && e < MOST_EVENTS; e++) {
-                if ((without >> e & 1) == 0 && isBeat(told.beats[e])) {
+                if ((without >> e & 1) == 0) {
                     add(told.kinds[e], told.beats[e], told.numbers[e]);
                 }
             }
         }
 
         private void add(int kind, int beat, int number) {
-            if (!isBeat(beat)) {
+            if (beat < 0 || beat >= BEATS) {
                 return;
             }
             if (kind == GUST) {
@@ -905,14 +895,15 @@ public final class WireWalkers {
 
     /** What each was behind each beat of a show, and how the wire swayed in it. */
     private static final class Ledger {
-        private final int[] states = new int[BEATS * MOST_WALKERS];
-        private final int[] places = new int[BEATS * MOST_WALKERS];
-        private final int[] leans = new int[BEATS * MOST_WALKERS];
+        private static final int ROWS = BEATS * MOST_WALKERS;
+
+        private final int[] states = new int[ROWS];
+        private final int[] places = new int[ROWS];
+        private final int[] leans = new int[ROWS];
         private final int[] sways = new int[BEATS];
 
-        void note(int beat, int walker, int state, int place, int lean) {
-            int at = rowOf(beat, walker);
-            if (at != NONE) {
+        void note(int at, int state, int place, int lean) {
+            if (at >= 0 && at < ROWS) {
                 states[at] = state;
                 places[at] = place;
                 leans[at] = lean;
@@ -920,7 +911,7 @@ public final class WireWalkers {
         }
 
         void noteSway(int beat, int sway) {
-            if (isBeat(beat)) {
+            if (beat >= 0 && beat < BEATS) {
                 sways[beat] = sway;
             }
         }
@@ -944,13 +935,14 @@ public final class WireWalkers {
         long markOfPlaces(int beat, int walkers) {
             long mark = 0;
             for (int w = 0; w < walkers; w++) {
-                mark = mark << 6 | placeBehind(beat, w) + 1;
+                int at = rowOf(beat, w);
+                mark = mark << 6 | (at == NONE ? 0 : places[at] + 1);
             }
             return mark;
         }
 
         private static int rowOf(int beat, int walker) {
-            boolean there = isBeat(beat) && within(walker, 0, MOST_WALKERS - 1);
+            boolean there = beat >= 0 && beat < BEATS && walker >= 0 && walker < MOST_WALKERS;
             return there ? beat * MOST_WALKERS + walker : NONE;
         }
     }
@@ -1050,7 +1042,7 @@ public final class WireWalkers {
         }
 
         private void playBeat(Told told, int[] moves, int beat, int sway) {
-            if (!isBeat(beat)) {
+            if (beat < 0 || beat >= BEATS) {
                 return;
             }
             dropPoles(weather.drops[beat]);
@@ -1058,7 +1050,7 @@ public final class WireWalkers {
             int ahead = FREE;
             for (int k = 0; k < inLine && k < MOST_WALKERS; k++) {
                 int w = line[k];
-                if (within(w, 0, MOST_WALKERS - 1) && state[w] == ON) {
+                if (w >= 0 && w < MOST_WALKERS && state[w] == ON) {
                     leaning[w] += push;
                     int own = beat - began[w] - 1;
                     int move = own >= 0 && own < moves.length ? moves[own] : FORWARD;
@@ -1081,7 +1073,7 @@ public final class WireWalkers {
         }
 
         private void perform(Told told, int w, int move, int cheer, int ahead) {
-            if (!within(w, 0, MOST_WALKERS - 1)) {
+            if (w < 0 || w >= MOST_WALKERS) {
                 return;
             }
             int sort = told.sorts[w];
@@ -1093,18 +1085,17 @@ public final class WireWalkers {
                 blocked[w] += gone == 0 ? 1 : 0;
                 leaning[w] += sort == BOLD ? gone : 0;
             } else if (move == WAIT) {
-                leaning[w] -= signOf(leaning[w]);
+                leaning[w] += leaning[w] > 0 ? -1 : leaning[w] < 0 ? 1 : 0;
             } else {
                 int by = 1 + pole[w] / 3 + (sort == OLD ? 1 : 0);
                 leaning[w] += move == RIGHT ? by : -by;
             }
-            if (sort != STEADY || Math.abs(leaning[w]) > 2) {
-                leaning[w] += signOf(leaning[w]);
-            }
+            int borne = sort == STEADY ? 2 : 0;
+            leaning[w] += leaning[w] > borne ? 1 : leaning[w] < -borne ? -1 : 0;
         }
 
         private void settle(Told told, int w, int beat) {
-            if (!within(w, 0, MOST_WALKERS - 1)) {
+            if (w < 0 || w >= MOST_WALKERS) {
                 return;
             }
             if (place[w] >= told.length) {
@@ -1139,12 +1130,8 @@ public final class WireWalkers {
         private void noteBeat(int beat, int sway, int all) {
             ledger.noteSway(beat, sway);
             for (int w = 0; w < all && w < MOST_WALKERS; w++) {
-                ledger.note(beat, w, state[w], place[w], leaning[w]);
+                ledger.note(beat * MOST_WALKERS + w, state[w], place[w], leaning[w]);
             }
-        }
-
-        private static int signOf(int v) {
-            return v > 0 ? 1 : v < 0 ? -1 : 0;
         }
     }
 

@@ -1,3 +1,9 @@
+import com.sun.source.tree.CompilationUnitTree;
+import com.sun.source.tree.MethodInvocationTree;
+import com.sun.source.tree.MethodTree;
+import com.sun.source.util.JavacTask;
+import com.sun.source.util.TreePathScanner;
+import com.sun.source.util.Trees;
 import java.lang.reflect.Constructor;
 import java.lang.reflect.Field;
 import java.lang.reflect.Method;
@@ -6,11 +12,17 @@ import java.nio.file.Files;
 import java.nio.file.Path;
 import java.util.ArrayList;
 import java.util.HashSet;
+import java.util.LinkedHashMap;
 import java.util.List;
+import java.util.Map;
 import java.util.Set;
 import java.util.TreeSet;
 import java.util.regex.Matcher;
 import java.util.regex.Pattern;
+import javax.lang.model.element.Element;
+import javax.tools.JavaCompiler;
+import javax.tools.StandardJavaFileManager;
+import javax.tools.ToolProvider;
 
 /** The face of the document, and those rules of LANGUAGE.md that can be looked up in the source. */
 public final class LanguageTest {
@@ -36,6 +48,7 @@ public final class LanguageTest {
         library(code);
         methods(code);
         classes();
+        depthOfCalls();
         Check.finish();
     }
 
@@ -118,6 +131,51 @@ public final class LanguageTest {
             else fields++;
         }
         Check.holds(c + " has twenty fields at most", fields <= 20);
+    }
+
+    /** Who calls whom in the class; rule 11 lets calls go eight deep, and the library's own is the eighth. */
+    private static void depthOfCalls() throws Exception {
+        JavaCompiler compiler = ToolProvider.getSystemJavaCompiler();
+        StandardJavaFileManager files = compiler.getStandardFileManager(null, null, null);
+        Path source = Path.of("src/main/java/WireWalkers.java");
+        JavacTask task = (JavacTask) compiler.getTask(null, files, null, null, null, files.getJavaFileObjects(source));
+        Iterable<? extends CompilationUnitTree> units = task.parse();
+        task.analyze();
+        Trees trees = Trees.instance(task);
+        Map<Element, Set<Element>> calls = new LinkedHashMap<>();
+        for (CompilationUnitTree unit : units) {
+            new TreePathScanner<Void, Element>() {
+                @Override
+                public Void visitMethod(MethodTree method, Element outer) {
+                    Element own = trees.getElement(getCurrentPath());
+                    calls.computeIfAbsent(own, k -> new HashSet<>());
+                    return super.visitMethod(method, own);
+                }
+
+                @Override
+                public Void visitMethodInvocation(MethodInvocationTree call, Element own) {
+                    if (own != null) calls.get(own).add(trees.getElement(getCurrentPath()));
+                    return super.visitMethodInvocation(call, own);
+                }
+            }.scan(unit, null);
+        }
+        Check.holds("methods were found", calls.size() > 37);
+        for (Element method : calls.keySet()) {
+            List<String> longest = longestFrom(method, calls, 0);
+            Check.holds("eight calls deep at most: " + longest, longest.size() <= 7);
+        }
+    }
+
+    private static List<String> longestFrom(Element method, Map<Element, Set<Element>> calls, int depth) {
+        List<String> longest = new ArrayList<>();
+        if (depth > 20) return longest;
+        for (Element next : calls.get(method)) {
+            if (!calls.containsKey(next)) continue;
+            List<String> way = longestFrom(next, calls, depth + 1);
+            if (way.size() > longest.size()) longest = way;
+        }
+        longest.add(0, method.toString());
+        return longest;
     }
 
     private static String withoutComments(String source) {
