@@ -1,3 +1,5 @@
+import java.util.Random;
+
 /** Counts answers that are not as due, and ends a test with exit code 1 if there was one. */
 final class Check {
     static final int LEAST = Integer.MIN_VALUE;
@@ -50,6 +52,24 @@ final class Check {
         x.wire(1, slack);
         x.wire(2, limit);
         return x;
+    }
+
+    /** One to six walkers, most of them early. */
+    static String walkersByChance(Random random) {
+        StringBuilder walkers = new StringBuilder();
+        for (int w = random.nextInt(6); w >= 0; w--) {
+            walkers.append((char) ('a' + random.nextInt(random.nextInt(8) == 0 ? 24 : 6)));
+            walkers.append("sbo".charAt(random.nextInt(3))).append(random.nextInt(10)).append(w > 0 ? ";" : "");
+        }
+        return walkers.toString();
+    }
+
+    static String routineByChance(Random random) {
+        StringBuilder routine = new StringBuilder();
+        for (int k = random.nextInt(24); k > 0; k--) {
+            routine.append("fffwlr".charAt(random.nextInt(6)));
+        }
+        return routine.toString();
     }
 
     /** All that an object shows without a finding: what a refusal must leave as it was. */

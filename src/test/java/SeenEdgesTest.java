@@ -21,6 +21,9 @@ public final class SeenEdgesTest {
         sortsAreBits0To2();
         wasTakesItsBounds();
         askOfLikeOnes();
+        askOfThreeGroups();
+        askOfPoleNineAlone();
+        askCountsEachPole();
         askInTheLastBeat();
         askOfNoPole();
         askOfAllWalkers();
@@ -95,13 +98,15 @@ public final class SeenEdgesTest {
 
     /** "of one that there is not nothing ever comes out so" */
     private static void seenOfOneThatThereIsNot() {
-        for (int is = 0; is <= 3; is++) {
-            WireWalkers x = gusty(still("as0", "", 40, 20), 3);
-            due("taken", x.seen(0, 1, is), 1);
-            due("never", x.never(), 0);
-            due("poles", x.was(0, 0), 0);
-            due("sorts", x.was(0, 1), 0);
-            due("ask", x.ask(0), 0);
+        for (int walker = 1; walker <= 5; walker++) {
+            for (int is = 0; is <= 3; is++) {
+                WireWalkers x = gusty(still("as0", "", 40, 20), 3);
+                due("taken", x.seen(0, walker, is), 1);
+                due("never", x.never(), 0);
+                due("poles", x.was(0, 0), 0);
+                due("sorts", x.was(0, 1), 0);
+                due("ask", x.ask(0), 0);
+            }
         }
         WireWalkers six = still("as0;as0;as0;as0;as0;xs0", "", 40, 20);
         six.seen(23, 5, ON);
@@ -215,6 +220,10 @@ public final class SeenEdgesTest {
         steady.seen(2, 0, FELL);
         due("none can be both", steady.was(0, 1), 0);
         due("as told yet", steady.walker(0, 1), 2);
+        WireWalkers gust = gusty(still("ab0", "", 40, 4), 1);
+        gust.seen(1, 0, ON);
+        due("with its events: all fall", gust.was(0, 1), 0);
+        due("with its events: all fall", gust.was(0, 0), 0);
     }
 
     /** "POLES (what = 0), SORT (1), as bits. BAD." */
@@ -248,6 +257,33 @@ public final class SeenEdgesTest {
         due("one is like itself in all beats", one.ask(0), 0);
     }
 
+    /** "the greatest number of those": poles 0 to 2 fall in 8, 3 to 5 in 9, the others go on. */
+    private static void askOfThreeGroups() {
+        WireWalkers x = gusty(still("as0", "ffffl", 40, 8), 3);
+        due("seven alike behind 9, four behind 10", x.ask(0), 10);
+        x.seen(9, 0, FELL);
+        due("0 to 5 are left, three alike behind 9", x.was(0, 0), 63);
+        due("0 to 5 are left, three alike behind 9", x.ask(0), 9);
+        WireWalkers four = gusty(still("as0", "fffffl", 40, 8), 3);
+        due("0 to 2 fall in 8, 3 to 5 in 9, 6 to 8 in 10", four.ask(0), 11);
+    }
+
+    /** Nine alike are less than ten. */
+    private static void askOfPoleNineAlone() {
+        WireWalkers x = still("as0", "lr", 40, 5);
+        due("9 falls in 1, the others go on in 3", x.ask(0), 3);
+        x.seen(1, 0, FELL);
+        due("9 alone is left", x.ask(0), 0);
+    }
+
+    /** Shows found by a search: each pole counts, and each place up to 40. */
+    private static void askCountsEachPole() {
+        due("pole 0 counts", Check.wired("cs0", "rwllfffffr", 20, 5, 10).ask(0), 20);
+        WireWalkers far = Check.wired("ds8;ab9", "lfffwlwflf", 38, 1, 16);
+        far.event(CHEER, 5, 2);
+        due("places above 31", far.ask(0), 21);
+    }
+
     /** BEATS are 0 to 23: who fell in 22 is behind in 23, who fell in 23 never is. */
     private static void askInTheLastBeat() {
         due("fell in 22", gusty(still("os0", "fffl", 40, 8), 17).ask(0), 23);
@@ -267,6 +303,8 @@ public final class SeenEdgesTest {
         due("as told 0 stays at 0 (with pole 6 he would fall in 1)", x.ends(0, 0), NONE);
         due("1 waits for 0, or starts in 1", x.ask(0), 1);
         due("of 1 it does not matter", x.ask(1), 0);
+        WireWalkers late = gusty(still("as0;xs0", "fffl", 40, 8), 3);
+        due("another is not on yet", late.ask(0), 9);
     }
 
     private static void askTakesItsBounds() {
@@ -329,6 +367,14 @@ public final class SeenEdgesTest {
         WireWalkers six = still("as0;as0;as0;as0;as0;as0", "", 23, 20);
         for (int w = 0; w <= 5; w++) {
             chances("only the first gets there", six, 5, w, w == 0 ? 1 : 0, 1);
+        }
+        six.wire(0, 20);
+        for (int w = 0; w <= 5; w++) {
+            chances("four get there", six, 5, w, w <= 3 ? 1 : 0, 1);
+        }
+        WireWalkers last = gusty(still("as0;as0;as0;as0;as0;gs0", "", 5, 4), 4);
+        for (int w = 0; w <= 5; w++) {
+            chances("the gust takes those who are on by then", last, 8, w, 1, w <= 3 ? 2 : 1);
         }
     }
 
@@ -424,6 +470,11 @@ public final class SeenEdgesTest {
         due("falls yet", x.sum(1), 1);
         x.type(1, '!');
         due("a routine with a fault is as none", x.shows(1, 0, 1), 10);
+        WireWalkers events = still("as0", "", 24, 20);
+        due("too far", events.shows(1, 0, 0), 0);
+        events.event(CHEER, 3, 0);
+        due("with its events", events.shows(1, 0, 0), 1);
+        due("with its events", events.shows(1, 0, 1), 24);
     }
 
     /** "SHOWS: OVER (what = 0), PLACES (1). BAD." */

@@ -1,4 +1,5 @@
 import java.math.BigInteger;
+import java.util.Random;
 
 /** Promises 11 and 31 to 38, the sheets: each sentence with an edge has a test of its own. */
 public final class SheetEdgesTest {
@@ -37,6 +38,7 @@ public final class SheetEdgesTest {
         countTakesItsBounds();
         countTellsTheLatestFinding();
         digestWraps();
+        digestOfManyShows();
         Check.finish();
     }
 
@@ -551,11 +553,32 @@ public final class SheetEdgesTest {
         x.seen(9, 0, 2);
         due("digest", x.digest(), digestOf(x).longValue());
         due("of a new one", new WireWalkers().digest(), digestOf(new WireWalkers()).longValue());
+        WireWalkers lots = Check.wired("as0", "", 8, 0, 20);
+        due("the 18th lot tells", lots.shows(7, 17, 0) * 10 + lots.shows(7, 18, 0), 10);
+        due("so shows() of 18 are in it", lots.digest(), digestOf(lots).longValue());
         long first = x.digest();
         x.lose(0);
         due("a finding is not in it", x.digest(), first);
         x.sheet(0, 0, 9);
         due("a sheet is not in it", x.digest(), first);
+    }
+
+    /** "h becomes 31 h and each of: ..": shows by chance, so that no two of its parts are always alike. */
+    private static void digestOfManyShows() {
+        for (int seed = 0; seed < 60; seed++) {
+            Random random = new Random(seed);
+            WireWalkers x = Check.wired(Check.walkersByChance(random), Check.routineByChance(random), 5 + random.nextInt(12),
+                random.nextInt(7), 3 + random.nextInt(18));
+            for (int k = random.nextInt(6); k > 0; k--) {
+                x.event(random.nextInt(3), random.nextInt(14), random.nextInt(6));
+            }
+            if (random.nextBoolean()) {
+                x.seen(random.nextInt(24), random.nextInt(3), random.nextInt(4));
+            }
+            if (seed % 10 == 0) x.type(0, '!');
+            if (seed % 10 == 5) x.type(1, '!');
+            due("digest of show " + seed, x.digest(), digestOf(x).longValue());
+        }
     }
 
     private static BigInteger mixed(BigInteger h, long... values) {

@@ -536,6 +536,7 @@ public final class ShowEdgesTest {
         due("no lean", never.lean(23, 1), 0);
         due("no end", never.ends(1, 0), NONE);
         due("not blocked", never.ends(1, 1), 0);
+        due("never leaned", never.ends(1, 2), 0);
         due("bare but for the last", never.bare(), 23);
     }
 
