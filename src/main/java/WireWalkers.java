@@ -15,7 +15,7 @@ public final class WireWalkers {
     private static final int OFF = 0, ON = 1, OVER = 2, FELL = 3;
     private static final int FREE = 1000;
     private static final int NULL = 1, INDEX = 2, CAST = 3, STORE = 4, SIZE = 5;
-    private static final int WORST_INT = Integer.MIN_VALUE;
+    private static final int LEAST_INT = Integer.MIN_VALUE;
     private static final int[] DIGEST_BEATS = {0, 6, 13, 23};
 
     private final Text walkerText = new Text(WALKER_BYTES);
@@ -179,7 +179,7 @@ public final class WireWalkers {
 
     public int lean(int beat, int walker) {
         if (!isBeat(beat) || !isWalker(walker)) {
-            return WORST_INT;
+            return LEAST_INT;
         }
         return shown().ledger.leanBehind(beat, walker);
     }
@@ -198,7 +198,7 @@ public final class WireWalkers {
     }
 
     public int sway(int beat) {
-        return isBeat(beat) ? shown().ledger.sways[beat] : WORST_INT;
+        return isBeat(beat) ? shown().ledger.sways[beat] : LEAST_INT;
     }
 
     public int ends(int walker, int what) {
@@ -562,12 +562,12 @@ public final class WireWalkers {
 
     public int get(int s, int form, int i) {
         if (!isSheet(s) || !isForm(form)) {
-            return WORST_INT;
+            return LEAST_INT;
         }
         int finding = findingAt(sheets[s], form, i);
         if (finding != 0) {
             found(finding);
-            return WORST_INT;
+            return LEAST_INT;
         }
         return sheets[s].items[i];
     }

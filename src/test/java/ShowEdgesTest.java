@@ -26,6 +26,8 @@ public final class ShowEdgesTest {
         dropsFromThenOn();
         cheersWhateverTheNumber();
         swaysIfAnybodyWentOn();
+        swaysByWhoeverWentOn();
+        swaysThoseWhoAreOnIt();
         swaysToBothSides();
         theFarthestFirst();
         boldOnesByTwo();
@@ -301,6 +303,14 @@ public final class ShowEdgesTest {
         due("gust 3, right 1, and 1", x.lean(1, 0), 5);
         x.event(GUST, 1, 0);
         due("both gusts", x.lean(1, 0), 1);
+        WireWalkers each = still("as9;bs9", "fl", 40, 20);
+        each.event(CHEER, 2, 0);
+        each.event(DROP, 2, 0);
+        each.event(GUST, 2, 1);
+        each.event(DROP, 2, 1);
+        due("gust 3, left 1", each.lean(2, 0), 2);
+        due("gust 3, and 1; blocked for all the cheer", each.lean(2, 1) * 10 + each.at(2, 1, 1), 40);
+        due("left 1 of 4, and 1", each.lean(3, 1), 4);
         WireWalkers late = still("as0", "", 40, 20);
         late.event(GUST, 5, 1);
         late.event(GUST, 3, 0);
@@ -316,6 +326,13 @@ public final class ShowEdgesTest {
             for (int w = 0; w <= 5; w++) {
                 due(dropped + " drops: lean of " + w, x.lean(2 * w + 1, w), w == dropped ? -3 : -6);
                 due("as told", x.walker(w, 2), 9);
+            }
+        }
+        WireWalkers all = still("ao9;ao9;ao9;ao9;ao9;ao9", "l", 40, 20);
+        for (int dropped = 0; dropped <= 5; dropped++) {
+            all.event(DROP, 0, dropped);
+            for (int w = 0; w <= 5; w++) {
+                due("up to " + dropped + " drop in one beat: lean of " + w, all.lean(2 * w + 1, w), w <= dropped ? -3 : -6);
             }
         }
         WireWalkers one = still("ao9", "l", 40, 20);
@@ -378,6 +395,42 @@ public final class ShowEdgesTest {
             due("nobody: sway(" + beat + ")", nobody.sway(beat), 0);
             due("who starts goes by no place", late.sway(beat), 0);
         }
+    }
+
+    /** "if anybody went on": who fell in that BEAT, or all six, or by three PLACES; it sways by half of SLACK alike. */
+    private static void swaysByWhoeverWentOn() {
+        WireWalkers fell = Check.wired("as0", "", 40, 4, 3);
+        fell.event(GUST, 2, 1);
+        due("went on in 2, and fell", fell.at(2, 0, 1) * 10 + fell.at(2, 0, 0), 23);
+        due("went on in 1", fell.sway(2), 2);
+        due("went on in 2, though he fell", fell.sway(3), -2);
+        due("fallen ones go nowhere", fell.sway(4), 0);
+        WireWalkers six = Check.wired("as0;as0;as0;as0;as0;as0", "", 40, 4, 20);
+        WireWalkers bold = Check.wired("ab0", "", 40, 4, 20);
+        bold.event(CHEER, 2, 0);
+        due("three places in 2", bold.at(2, 0, 1) - bold.at(1, 0, 1), 3);
+        for (int beat = 2; beat <= 4; beat++) {
+            due("several went on: sway(" + beat + ")", six.sway(beat), beat % 2 == 0 ? 2 : -2);
+            due("by several places: sway(" + beat + ")", bold.sway(beat), beat % 2 == 0 ? 2 : -2);
+        }
+    }
+
+    /** "all who are on it LEAN more": not who starts in that BEAT, is OVER, or FELL; whoever went on or not. */
+    private static void swaysThoseWhoAreOnIt() {
+        WireWalkers x = Check.wired("as0;cs0", "", 40, 9, 20);
+        leans("starts in a beat of swaying", x, 1, 0, 0, 0, -5, -1);
+        leans("is on it", x, 0, 0, 0, 5, 1, 6);
+        WireWalkers over = Check.wired("as0;bs0", "", 5, 4, 20);
+        due("sways when 0 is over", over.sway(6), 2);
+        leans("over", over, 0, 0, 0, 2, 0, 2, 0, 0, 0);
+        WireWalkers fell = Check.wired("as0;cs0", "", 40, 4, 6);
+        fell.event(GUST, 2, 1);
+        leans("fell", fell, 0, 0, 0, 6, 6, 6);
+        due("sways by the other", fell.sway(4), 2);
+        WireWalkers waits = Check.wired("as0;bs0", "fw", 40, 4, 20);
+        due("0 waits, 1 is blocked", waits.at(2, 0, 1) * 10 + waits.at(2, 1, 1), 10);
+        due("who waits is swayed first", waits.lean(2, 0), 1);
+        due("who is blocked is swayed", waits.lean(2, 1), 2);
     }
 
     /** "to the right in BEATS 0, 2, 4 .., to the left in others" */
